@@ -36,8 +36,8 @@ public final class MountPeers {
     private final Tree now = new Tree();
     private final Tree spare = new Tree();
     private final History history = new History();
+    /** What was kept under each number; null where nothing was. */
     private final Tree[] kept = new Tree[KEPT];
-    private int keptSet;
     private final Text text = new Text();
     private final Row row = new Row();
     private final Rule rule = new Rule();
@@ -51,9 +51,6 @@ public final class MountPeers {
     private int drawn;
 
     public MountPeers() {
-        for (int i = 0; i < KEPT; i++) {
-            kept[i] = new Tree();
-        }
     }
 
     // ---- texts, mounts
@@ -616,13 +613,15 @@ public final class MountPeers {
         if (i < 0 || i >= KEPT) {
             return false;
         }
+        if (kept[i] == null) {
+            kept[i] = new Tree();
+        }
         kept[i].take(now);
-        keptSet |= 1 << i;
         return true;
     }
 
     public boolean again(int i) {
-        if (i < 0 || i >= KEPT || (keptSet & 1 << i) == 0) {
+        if (i < 0 || i >= KEPT || kept[i] == null) {
             return false;
         }
         now.take(kept[i]);
@@ -806,39 +805,25 @@ public final class MountPeers {
         }
 
         int withGroup(int group) {
-            int set = 0;
-            for (int m = 0; m < MOUNTS && group != 0; m++) {
-                if (groups[m] == group) {
-                    set |= 1 << m;
-                }
-            }
-            return set;
+            return group == 0 ? 0 : having(groups, group);
         }
 
         int withMaster(int group) {
-            int set = 0;
-            for (int m = 0; m < MOUNTS && group != 0; m++) {
-                if (masters[m] == group) {
-                    set |= 1 << m;
-                }
-            }
-            return set;
+            return group == 0 ? 0 : having(masters, group);
         }
 
         int withAnyGroup() {
-            int set = 0;
-            for (int m = 0; m < MOUNTS; m++) {
-                if (groups[m] != 0) {
-                    set |= 1 << m;
-                }
-            }
-            return set;
+            return there & ~having(groups, 0);
         }
 
         int withAnyMaster() {
+            return there & ~having(masters, 0);
+        }
+
+        private static int having(int[] numbers, int number) {
             int set = 0;
-            for (int m = 0; m < MOUNTS; m++) {
-                if (masters[m] != 0) {
+            for (int m = 0; m < MOUNTS && m < numbers.length; m++) {
+                if (numbers[m] == number) {
                     set |= 1 << m;
                 }
             }
@@ -1192,7 +1177,7 @@ public final class MountPeers {
         }
     }
 
-    /** The latest twelve states that can be brought back, in a ring. */
+    /** The latest twelve states that can be brought back, in a ring; each is made once and used again. */
     private static final class History {
         private static final int KEPT_LATEST = 12;
 
@@ -1200,15 +1185,12 @@ public final class MountPeers {
         private int top;
         private int size;
 
-        History() {
-            for (int i = 0; i < KEPT_LATEST; i++) {
-                ring[i] = new Tree();
-            }
-        }
-
         void push(Tree state) {
             if (top < 0 || top >= KEPT_LATEST) {
                 top = 0;
+            }
+            if (ring[top] == null) {
+                ring[top] = new Tree();
             }
             ring[top].take(state);
             top++;
@@ -1216,12 +1198,13 @@ public final class MountPeers {
         }
 
         boolean pop(Tree into) {
-            if (size == 0) {
+            int last = top > 0 && top <= KEPT_LATEST ? top - 1 : KEPT_LATEST - 1;
+            if (size == 0 || ring[last] == null) {
                 return false;
             }
-            top = top > 0 && top <= KEPT_LATEST ? top - 1 : KEPT_LATEST - 1;
+            into.take(ring[last]);
+            top = last;
             size--;
-            into.take(ring[top]);
             return true;
         }
     }
@@ -1333,6 +1316,7 @@ public final class MountPeers {
         private final int[] waiting = new int[LONGEST];
         private int waits;
         private boolean thingDue;
+        /** How many digits the number has that is being read; 0 where a thing is due. */
         private int digits;
         private int depth;
         /** Bit d: at depth d there was a comparison; a second one can't follow it. */
@@ -1386,7 +1370,6 @@ public final class MountPeers {
                 digits = 1;
             } else if (letter >= 0) {
                 emit(LETTER + letter);
-                digits = 0;
             } else {
                 return false;
             }

@@ -98,6 +98,10 @@ public final class GuessPromisesTest {
         x.heard(3, 1);
         C.due("asks() of 1, 2: by dir", x.asks(), 20);
         C.dueRow("asks() of 1, 2", x, 1);
+        MountPeers y = new MountPeers();
+        C.due("kinds 0, 1, 4, 4", Check.say(y, "ma.k1a.ba:b.ba:c.k2b.k2c.k1b.k1c.").day(), 8);
+        C.due("asks() by the last kind", y.asks(), 4);
+        C.dueRow("asks() by the last kind", y, 2);
     }
 
     private static void promise33Saw() {

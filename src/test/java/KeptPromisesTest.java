@@ -23,6 +23,9 @@ public final class KeptPromisesTest {
         C.due("again(0), as kept last", x.again(0), true);
         C.due("count(0) of that", x.count(0), 7);
         C.due("again(0) twice", x.again(0), true);
+        for (int i : new int[] {-1, 2, 32, 33, -32, Integer.MAX_VALUE, Integer.MIN_VALUE}) {
+            C.due("again(" + i + ")", x.again(i), false);
+        }
     }
 
     private static void promise43Again() {
