@@ -905,10 +905,10 @@ public final class MountPeers {
         }
 
         void leaveGroup(int mount) {
-            int group = groupOf(mount);
-            if (group == 0) {
+            if (!has(mount) || groups[mount] == 0) {
                 return;
             }
+            int group = groups[mount];
             groups[mount] = 0;
             if (withGroup(group) == 0) {
                 for (int m = 0; m < MOUNTS; m++) {
@@ -1285,10 +1285,10 @@ public final class MountPeers {
         }
 
         void turn() {
-            for (int i = 0, j = size - 1; i < j; i++, j--) {
+            for (int i = 0; i < size / 2; i++) {
                 long number = numbers[i];
-                numbers[i] = numbers[j];
-                numbers[j] = number;
+                numbers[i] = numbers[size - 1 - i];
+                numbers[size - 1 - i] = number;
             }
         }
 
