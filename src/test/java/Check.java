@@ -112,6 +112,14 @@ final class Check {
         }
     }
 
+    int asked() {
+        return asked;
+    }
+
+    int wrong() {
+        return wrong;
+    }
+
     void end() {
         System.out.println(name + ": " + asked + " asked, " + wrong + " wrong");
         if (wrong != 0) {
