@@ -43,6 +43,10 @@ final class ActEdges {
             MountPeers y = Worlds.line(22);
             c.due("the last number", y.mounts(0, 3), 23);
             c.dueRow("the last number", y, 1, 1 << 23);
+            MountPeers z = Worlds.high();
+            c.due("in 1", z.mounts(1, 0), 2);
+            c.dueRow("in 1, and in 23", z, 2, 4 | 8);
+            c.due("that in 23", z.at(23, 0), 3);
         });
         e.edge(9, "-2: something is there;", c -> {
             MountPeers x = Worlds.chain();
@@ -112,6 +116,10 @@ final class ActEdges {
             c.due("ROOT is", x.binds(0, 1, 0), -3);
             c.dueState("a refused one", x, state);
             c.due("in one that is, of one that is not", x.binds(1, 0, 3), 4);
+            MountPeers y = Worlds.high();
+            y.makes(23, 3);
+            c.due("23 is", y.binds(23, 0, 1), -3);
+            c.due("23 is: trees()", y.trees(23, 0, 1), -3);
             x.makes(0, 0);
             c.due("no more", x.binds(0, 1, 0), 5);
         });
@@ -158,6 +166,15 @@ final class ActEdges {
             for (int d = 0; d < 4; d++) {
                 c.due("at " + d, x.at(6, d), 7 + d);
             }
+            MountPeers y = Worlds.high();
+            c.due("1 and 23 in ROOT", y.trees(0, 0, 1), 2);
+            c.dueRow("1 and 23 in ROOT", y, 3, 4 | 8 | 16);
+            c.due("that of 23", y.at(2, 3), 4);
+            MountPeers z = Worlds.high();
+            z.makes(23, 0);
+            z.mounts(23, 3);
+            c.due("what is in 23", z.trees(23, 0, 1), 3);
+            c.dueRow("what is in 23", z, 2, 8 | 16);
         });
         e.edge(11, "(as all was ahead of this)", c -> {
             MountPeers x = Worlds.after("ma.mab.");
@@ -287,6 +304,7 @@ final class ActEdges {
             c.due("nobody has its group: its slave has its master", x.mount(4, 3), 1);
             x.makes(4, 0);
             dueMount(c, x, 4, 0, 3, 0, 0, 0);
+            c.due("it had no group to leave: those without master have none still", x.count(2), 0);
             x.makes(4, 3);
             x.makes(4, 0);
             c.due("unbindable ones", x.count(3), 0);
@@ -396,6 +414,15 @@ final class ActEdges {
                 z.mounts(1, 0);
                 Worlds.ruled(z, "k");
                 c.due("k as ahead of it", z.unmounts(1, 0), 2);
+                MountPeers h = Worlds.high();
+                h.mounts(1, 0);
+                c.due("in 1 and in 23", h.unmounts(1, 0), 2);
+                c.dueRow("in 1 and in 23", h, 4 | 8);
+                MountPeers s = Worlds.longChain();
+                s.unmounts(0, 3);
+                s.peers(3);
+                c.due("a slave that went is none any more", s.row(1), 0);
+                c.due("nor is it in a spread", s.spread(1), 2 | 4 | 8);
             });
         e.edge(13, "if nothing has that as PARENT", c -> {
             MountPeers x = Worlds.ruled(Worlds.peers(), "0");
@@ -406,6 +433,15 @@ final class ActEdges {
             c.due("that of 2 is parent of 5", x.unmounts(1, 0), 1);
             c.dueRow("that of 2 stays", x, 8);
             c.due("count(0)", x.count(0), 1 | 2 | 4 | 16 | 32);
+            MountPeers y = Worlds.after("ma.k1a.ba:b.mc.");
+            for (int m = 3; m < 21; m++) {
+                y.mounts(m, 0);
+            }
+            y.mounts(1, 0);
+            c.due("22 and 23 are parents of none", y.unmounts(1, 0), 2);
+            c.dueRow("22 and 23", y, 3 << 22);
+            MountPeers z = Worlds.line(23);
+            c.due("22 is parent of 23", z.unmounts(21, 0), -3);
         });
         e.edge(13, "(each LEAVES its GROUP, by the number of the one in which it was;", c -> {
             MountPeers x = Worlds.chain();

@@ -176,6 +176,8 @@ final class ChanceEdges {
             c.dueRow("rests(0)", x, 0, 0);
             c.due("rests(3)", x.rests(3), 2);
             c.dueRow("rests(3)", x, 0, 1);
+            c.due("rests(4)", x.rests(4), 2);
+            c.dueRow("rests(4)", x, 0, 1);
             c.due("rests(20)", x.rests(20), 0);
             c.dueRow("rests(20)", x);
         });

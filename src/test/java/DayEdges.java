@@ -223,6 +223,16 @@ final class DayEdges {
                 c.due("undo() of act " + i, x.undo(), 1);
                 c.dueState("undo() of act " + i, x, state);
             }
+            for (int i = 0; i < acts.length; i++) {
+                x.makes(0, 1);
+                x.makes(0, 0);
+                String before = Check.stateOf(x);
+                acts[i].run();
+                x.undo();
+                c.dueState("act " + i + " behind another", x, before);
+                x.undo();
+                x.undo();
+            }
             x.mounts(0, 3);
             x.makes(0, 1);
             c.due("the latest first", x.undo(), 2);

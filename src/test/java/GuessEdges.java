@@ -140,6 +140,9 @@ final class GuessEdges {
             c.due("the twelfth counts", y.fits(), 0);
             y.mounts(0, 0);
             c.due("1, that came then", y.fits(), 2);
+            MountPeers z = Worlds.high();
+            z.heard(2, 3);
+            c.due("23", z.fits(), 1 << 23);
         });
     }
 

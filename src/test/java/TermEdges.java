@@ -61,6 +61,13 @@ final class TermEdges {
             c.dueNone("mount(-1, 0)", () -> x.mount(-1, 0));
             c.due("unmounts(22, 0)", x.unmounts(22, 0), 1);
             c.dueNone("mount(23, 0), that is not there", () -> x.mount(23, 0));
+            MountPeers y = Worlds.high();
+            c.due("23 is at d of ROOT: mounts()", y.mounts(0, 3), -2);
+            c.due("23 is at d of ROOT: would()", y.would(0, 3), -2);
+            c.due("in it", y.mounts(23, 0), 2);
+            c.due("one is in it", y.inside(23), 4);
+            c.due("binds() of it", y.binds(23, 0, 1), 4);
+            c.due("it has group 1", y.mount(4, 2), 1);
         });
         e.edge(Edges.TERMS, "0, ROOT, is there always.", c -> {
             MountPeers x = Worlds.after("ma.ua.");
@@ -157,6 +164,9 @@ final class TermEdges {
                 c.due("2 has master 1, 3 and 5 master 2, 6 master 3", x.mount(6, 3), 3);
                 c.due("down to the slaves of peers of slaves of slaves", x.spread(1), 2 | 4 | 8 | 32 | 64);
                 c.due("peers, and their slaves", x.spread(5), 8 | 32 | 64);
+                MountPeers y = Worlds.after("ma.k1a.ba:b.k2b.ba:c.k2c.k1c.bc:d.k2d.");
+                c.due("2 has no group, and is less than 3, that has one", y.spread(1), 2 | 4 | 8 | 16);
+                c.due("of 23", Worlds.high().spread(23), 2 | 1 << 23);
             });
         e.edge(Edges.TERMS, "(of one without GROUP: itself alone)", c -> {
             MountPeers x = Worlds.longChain();
@@ -176,12 +186,22 @@ final class TermEdges {
         e.edge(Edges.TERMS, "THE RULE is a text of at most 40 signs", c -> {
             c.due("40 signs", Check.say(new MountPeers(), "-".repeat(39) + "1").rule(), 0);
             c.due("41 signs", Check.say(new MountPeers(), "-".repeat(40) + "1").rule(), -41);
+            lets(c, "-1" + "+0".repeat(18) + "<0", true);
+            lets(c, "-1" + "+0".repeat(18) + ">0", false);
         });
         e.edge(Edges.TERMS, "(at first none: 1)", c -> c.due("copies by no rule", Worlds.peers().would(1, 3), 2));
         e.edge(Edges.TERMS, "EXPRESSION: < > = bind least (two; 1 or 0; not one behind the other),", c -> {
             lets(c, "2<1+2", true);
             lets(c, "(1<2)=1", true);
             lets(c, "(2<1)=0", true);
+            lets(c, "(2>1)=1", true);
+            lets(c, "(1>2)=0", true);
+            lets(c, "(2=2)=1", true);
+            lets(c, "(1=2)=0", true);
+            lets(c, "(1<2)-1", false);
+            lets(c, "(2<1)+1", true);
+            lets(c, "(1<2)+(3<4)=2", true);
+            lets(c, "((1<2)<(3<4))+(1=1)", true);
             lets(c, "2<2", false);
             lets(c, "2>2", false);
             lets(c, "2>1+0", true);
@@ -279,6 +299,8 @@ final class TermEdges {
             MountPeers x = Worlds.longChain();
             dueHits(c, x, "i=3", 1, 3, 8);
             dueHits(c, x, "i>1", 1, 3, 4 | 8 | 16);
+            dueHits(c, Worlds.high(), "i=23", 1, 0, 1 << 23);
+            dueHits(c, Worlds.high(), "i=22", 1, 0, 0);
             dueHits(c, x, "d", 1, 0, 0);
             dueHits(c, x, "d=3", 1, 3, 4 | 8 | 16);
             dueHits(c, x, "d=3", 1, 2, 0);
@@ -365,6 +387,9 @@ final class TermEdges {
             dueKind(c, y, 3, 0, 0, 0);
             y.mounts(2, 1);
             dueKind(c, y, 4, 0, 0, 0);
+            MountPeers z = Worlds.high();
+            z.mounts(0, 1);
+            dueKind(c, z, 2, 0, 0, 0);
         });
         e.edge(Edges.TERMS, "if M has a GROUP, and this one has none: GROUP is a new one.", c -> {
             MountPeers x = Worlds.longChain();
@@ -410,6 +435,15 @@ final class TermEdges {
                 c.due("two of one group have one new one", y.mount(5, 2), 4);
                 c.due("two of one group, the other one", y.mount(6, 2), 4);
                 c.due("the next one of these", y.count(5), 5);
+                MountPeers z = Worlds.rootAsSlave();
+                z.mounts(1, 2);
+                c.due("ROOT is the least that has group 2", z.mount(z.at(0, 2), 2), 4);
+                c.due("its peer, too", z.mount(z.at(2, 2), 2), 4);
+                MountPeers h = Worlds.high();
+                h.makes(23, 2);
+                h.makes(23, 1);
+                h.mounts(1, 0);
+                dueKind(c, h, 3, 4, 3, 4);
             });
         e.edge(Edges.TERMS, "(3) At (H, D) for each HIT H, by number, comes a MOUNT (the least number that is not there):", c -> {
             MountPeers x = Worlds.after("ma.k1a.ba:b.ba:c.ba:d.");
@@ -433,6 +467,9 @@ final class TermEdges {
             x.mounts(1, 0);
             c.due("of 3, that has one", x.mount(x.at(3, 0), 2), 4);
             c.due("of 4, that has none", x.mount(x.at(4, 0), 2), 0);
+            x.makes(3, 2);
+            x.mounts(1, 1);
+            c.due("of 3, that had one and has none", x.mount(x.at(3, 1), 2), 0);
         });
         e.edge(Edges.TERMS, "MASTER is NEW of MASTER of H (0 of none, and of one that nobody of SPREAD has as GROUP).", c -> {
             MountPeers x = Worlds.longChain();
@@ -443,6 +480,16 @@ final class TermEdges {
             y.mounts(3, 0);
             c.due("(1) in 3, though its master is not in its spread", y.mount(y.at(3, 0), 3), 0);
             c.due("of 4: that of (1)", y.mount(y.at(4, 0), 3), 3);
+            MountPeers z = Worlds.after("ma.");
+            z.makes(0, 1);
+            z.binds(0, 0, 1);
+            z.makes(2, 2);
+            z.mounts(0, 2);
+            c.due("of a slave of ROOT's group", z.mount(z.at(2, 2), 3), 2);
+            MountPeers h = Worlds.high();
+            h.makes(1, 2);
+            h.mounts(23, 0);
+            c.due("of a slave of 23's group", h.mount(h.at(1, 0), 3), 2);
         });
         e.edge(Edges.TERMS,
             "A MOUNT LEAVES its GROUP: it has none then; if no other one has that: those whose MASTER it was have MASTER of this one"
@@ -456,6 +503,14 @@ final class TermEdges {
                 x.makes(2, 0);
                 c.due("nobody has group 1, and 2 had no master", x.mount(4, 3), 0);
                 c.due("4 is of kind 0 then", x.mount(4, 4), 0);
+                MountPeers y = Worlds.rootAsSlave();
+                y.makes(1, 0);
+                c.due("ROOT had group 1 as its master", y.mount(0, 3), 0);
+                c.due("2 had it, too", y.mount(2, 3), 0);
+                MountPeers z = Worlds.high();
+                z.makes(23, 2);
+                z.makes(1, 0);
+                c.due("23 had group 1 as its master", z.mount(23, 3), 0);
             });
     }
 
@@ -612,6 +667,10 @@ final class TermEdges {
             c.due("makes() of none such, 2", x.makes(9, 2), -1);
             c.due("keepers() of one that is none such", x.keepers(9, 9), -1);
             c.due("sheet() of another kind, n below 0", x.sheet(4, -1, 0, 0), -1);
+            x.makes(3, 3);
+            c.due("binds() of an unbindable one in none such", x.binds(3, 9, 0), -1);
+            c.due("binds() of an unbindable one at no such dir", x.binds(3, 0, 4), -1);
+            c.due("trees() of an unbindable one in none such", x.trees(3, 9, 0), -1);
             MountPeers y = Worlds.line(23);
             c.due("mounts() in none such of a full one", y.mounts(24, 0), -1);
             c.due("mounts() at no such dir of a full one", y.mounts(23, 4), -1);

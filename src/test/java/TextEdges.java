@@ -99,6 +99,8 @@ final class TextEdges {
         MountPeers x = Check.say(new MountPeers(), text);
         c.due("rule() of " + text, x.rule(), answer);
         c.due("signs behind it", x.count(10), 0);
+        c.due("a text that breaks off in all", Check.say(x, "1+((((1<-11").rule(), -12);
+        c.due("rule() behind that of " + text, Check.say(x, text).rule(), answer);
     }
 
     private static void rule(Edges e) {
@@ -113,12 +115,12 @@ final class TextEdges {
             c.due("the one that was stays", x.would(1, 0), 1);
         });
         e.edge(4, "-1 - p: the sign at p can't stand there", c -> {
-            for (String first : new String[] {"+", "*", "/", "<", ">", "=", ")", " ", "a", "N", "~", "" + (char) 0, "" + (char) 255}) {
+            for (String first : new String[] {"+", "*", "/", "<", ">", "=", ")", " ", "a", "N", "~", ":", "?", ",", "" + (char) 0, "" + (char) 255}) {
                 dueRule(c, first, -1);
                 dueRule(c, first + "1", -1);
                 dueRule(c, "1+" + first, -3);
             }
-            for (String behind : new String[] {"n", "k", "(", "a", " ", "~", "" + (char) 0, "" + (char) 200}) {
+            for (String behind : new String[] {"n", "k", "(", "a", " ", "~", ":", "?", ",", "" + (char) 0, "" + (char) 200}) {
                 dueRule(c, "1" + behind, -2);
                 dueRule(c, "n" + behind, -2);
                 dueRule(c, "(1)" + behind, -4);
@@ -127,6 +129,9 @@ final class TextEdges {
             dueRule(c, "(1)1", -4);
             dueRule(c, "1)", -2);
             dueRule(c, "(1))", -4);
+            dueRule(c, "1+1)", -4);
+            dueRule(c, "-1)", -3);
+            dueRule(c, "(1)+1)", -6);
             dueRule(c, "1234", -4);
             dueRule(c, "(((((", -5);
             dueRule(c, "1<1<1", -4);
@@ -240,6 +245,9 @@ final class TextEdges {
             c.due("group of ROOT", x.mount(0, 2), 0);
             c.due("master of ROOT", x.mount(0, 3), 0);
             c.due("steps to the farthest", Worlds.line(23).mount(23, 5), 23);
+            c.due("group of ROOT, with one", Worlds.rootAsSlave().mount(0, 2), 2);
+            c.due("master of ROOT, with one", Worlds.rootAsSlave().mount(0, 3), 1);
+            c.due("kind of ROOT, with both", Worlds.rootAsSlave().mount(0, 4), 4);
         });
         e.edge(6, "NoSuchElementException: none such, another what.", c -> {
             MountPeers x = Worlds.after("ma.mb.ua.");
@@ -313,6 +321,10 @@ final class TextEdges {
             MountPeers x = some();
             c.due("all three", x.sheet(2, 24, 1, 0), 3);
             c.due("a full one", Worlds.line(23).sheet(0, 24, 1, 0), 24);
+            MountPeers y = Worlds.high();
+            y.makes(23, 0);
+            c.due("the third entry is that of 23", y.sheet(2, 3, -1, 1), 1);
+            c.due("23", y.count(3), 1 << 23);
         });
         e.edge(8, "Nothing is kept of it that could be undone", c -> {
             MountPeers x = some();

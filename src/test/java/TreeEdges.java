@@ -130,6 +130,10 @@ final class TreeEdges {
             c.dueRow("one of 24", y, 24, 0);
             MountPeers z = Worlds.after("ma.k1a.ba:b.k2b.k0a.");
             c.due("a master that nobody has any more is none", z.groups(), 0);
+            MountPeers h = Worlds.high();
+            h.makes(1, 0);
+            c.due("that of 23", h.groups(), 1);
+            c.dueRow("that of 23", h, 1, 23);
         });
         e.edge(20, "(of as large ones that of the least MOUNT;", c -> {
             MountPeers x = Worlds.after("ma.mb.k1b.k1a.");
@@ -189,11 +193,22 @@ final class TreeEdges {
             MountPeers y = Worlds.line(23);
             c.due("in ROOT of a full one", y.inside(0), 0xFFFFFE);
             c.dueRow("in ROOT of a full one", y, 23, 23);
+            c.due("in 2, where others are farther from ROOT", Worlds.after("ma.mb.mba.maa.maaa.maaaa.").inside(2), 8);
+            MountPeers z = Worlds.after("ma.mb.mba.maa.maaa.maaaa.");
+            z.inside(2);
+            c.dueRow("in 2", z, 1, 1);
+            MountPeers h = Worlds.high();
+            h.mounts(23, 0);
+            c.due("in 23", h.inside(23), 4);
+            c.dueRow("in 23", h, 1, 1);
         });
         e.edge(22, "(0 without).", c -> {
             MountPeers x = Worlds.after("ma.maa.");
             c.due("in 2", x.inside(2), 0);
             c.dueRow("in 2", x, 0, 0);
+            MountPeers y = Worlds.after("ma.mb.maa.");
+            c.due("in 2, where others are farther from ROOT", y.inside(2), 0);
+            c.dueRow("in 2, where others are farther from ROOT", y, 0, 0);
             c.due("in ROOT alone", new MountPeers().inside(0), 0);
         });
         e.edge(22, "NONE: none such.", c -> {
@@ -209,6 +224,11 @@ final class TreeEdges {
             c.dueRow("to 3", x, 1, 3, 2);
             c.due("to 1", x.path(1), 1);
             c.dueRow("to 1", x, 1);
+            MountPeers z = Worlds.after("mb.mbd.mbdc.mbdca.mbdcab.");
+            c.due("to 5", z.path(5), 5);
+            c.dueRow("to 5", z, 1, 3, 2, 0, 1);
+            c.due("to 4", z.path(4), 4);
+            c.dueRow("to 4", z, 1, 3, 2, 0);
             MountPeers y = Worlds.line(22);
             y.mounts(22, 3);
             c.due("to 23, the farthest", y.path(23), 23);
@@ -281,6 +301,11 @@ final class TreeEdges {
             MountPeers y = Worlds.line(23);
             c.due("a full one", y.largest(), 1);
             c.dueRow("a full one", y, 23);
+            MountPeers z = Worlds.high();
+            z.makes(1, 0);
+            z.mounts(23, 0);
+            c.due("23, with one in it", z.largest(), 23);
+            c.dueRow("23, with one in it", z, 2);
         });
         e.edge(25, "(of as many the least): it; the ROW: how many.", c -> {
             MountPeers x = Worlds.after("ma.mb.mba.maa.");
@@ -328,6 +353,11 @@ final class TreeEdges {
             Worlds.ruled(x, "i=4");
             c.due("by a rule", x.would(2, 1), 2);
             c.dueRow("by a rule", x, 2, 4);
+            MountPeers y = Worlds.high();
+            c.due("in 1 and in 23", y.would(1, 0), 2);
+            c.dueRow("in 1 and in 23", y, 1, 23);
+            c.due("in 23 and in 1", y.would(23, 0), 2);
+            c.dueRow("in 23 and in 1", y, 23, 1);
         });
         e.edge(26, "(the first 14 alone).", c -> {
             MountPeers x = twelve();
@@ -407,6 +437,21 @@ final class TreeEdges {
         c.dueRow("widest()", x, row);
     }
 
+    /** 10, 11, 12 are peers; of each dir one of them has something, 10 of a, 12 of b and d, 11 of c. */
+    private static MountPeers lateTriplets() {
+        MountPeers x = Worlds.line(9);
+        x.mounts(0, 1);
+        x.makes(10, 1);
+        x.binds(10, 0, 2);
+        x.binds(10, 0, 3);
+        Worlds.ruled(x, "0");
+        x.mounts(10, 0);
+        x.mounts(12, 1);
+        x.mounts(11, 2);
+        x.mounts(12, 3);
+        return Worlds.ruled(x, "");
+    }
+
     private static void widest(Edges e) {
         e.edge(28, "The PLACE at which mounts() would bring the most MOUNTS", c -> {
             dueWidest(c, Worlds.after("ma.mb.mc.k1b.bb:d."), 20, 2);
@@ -415,12 +460,18 @@ final class TreeEdges {
             x.mounts(4, 0);
             dueWidest(c, x, 11, 4);
             dueWidest(c, twelve(), 3, 12);
+            MountPeers y = Worlds.high();
+            y.makes(1, 2);
+            dueWidest(c, y, 230, 2);
+            dueWidest(c, Worlds.ruled(Worlds.peers(), "0"), 2, 1);
+            dueWidest(c, Worlds.ruled(Worlds.peers(), "i=1"), 20, 2);
         });
         e.edge(28, "(of as many the least MOUNT, then DIR;", c -> {
             dueWidest(c, new MountPeers(), 0, 1);
             dueWidest(c, Worlds.after("ma."), 1, 1);
             dueWidest(c, Worlds.after("ma.mb.mc.md."), 10, 1);
             dueWidest(c, Worlds.after("ma.mb.mc.k1b.bb:d.mba."), 21, 2);
+            dueWidest(c, lateTriplets(), 101, 2);
         });
         e.edge(28, "such as would be refused aside): 10 times the MOUNT and the DIR: it; the ROW: how many.", c -> {
             dueWidest(c, crammed(21), 11, 3);

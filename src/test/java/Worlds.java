@@ -37,6 +37,34 @@ final class Worlds {
         return x;
     }
 
+    /** 1 at a of ROOT, 23 at d of it: peers of group 1; no others are there. Next group 2. */
+    static MountPeers high() {
+        MountPeers x = after("ma.k1a.mb.");
+        for (int m = 2; m < 22; m++) {
+            x.mounts(m, 0);
+        }
+        x.binds(1, 0, 3);
+        for (int m = 21; m >= 2; m--) {
+            x.unmounts(m, 0);
+        }
+        x.unmounts(0, 1);
+        if (x.count(0) != (1 | 2 | 1 << 23)) {
+            throw new IllegalStateException("others are there");
+        }
+        return x;
+    }
+
+    /** ROOT has a group (2) and a master (1), which 1 at a has as its group; 2 at b is a peer of ROOT. Next group 3. */
+    static MountPeers rootAsSlave() {
+        MountPeers x = new MountPeers();
+        x.makes(0, 1);
+        x.binds(0, 0, 0);
+        x.makes(0, 2);
+        x.makes(0, 1);
+        x.binds(0, 0, 1);
+        return x;
+    }
+
     /** ROOT and as many others are peers (group 1), four in each from ROOT on; the rule is 0. */
     static MountPeers crowd(int others) {
         MountPeers x = new MountPeers();
