@@ -54,9 +54,13 @@ final class Edges {
         return line.replaceFirst("^[12]\\. ", "");
     }
 
+    private static String nameOf(int section) {
+        return section > TERMS ? "promise " + section : section == TERMS ? "terms" : "about";
+    }
+
     /** One test of its own, of the words that stand in a promise (TERMS, ABOUT: ahead of the promises). */
     void edge(int promise, String words, Consumer<Check> test) {
-        String name = (promise > 0 ? "promise " + promise : promise == TERMS ? "terms" : "about") + " \"" + words + "\"";
+        String name = nameOf(promise) + " \"" + words + "\"";
         String text = sections.getOrDefault(promise, "");
         int from = text.indexOf(words);
         if (from < 0 || text.indexOf(words, from + 1) >= 0) {
@@ -86,11 +90,11 @@ final class Edges {
     }
 
     void end() {
-        for (int section = TERMS; section <= PROMISES; section++) {
+        for (int section = ABOUT; section <= PROMISES; section++) {
             String left = sections.containsKey(section) ? untold(section) : "no such part of the document";
             if (left.matches(".*[A-Za-z0-9].*")) {
                 broken++;
-                System.out.println("promise " + section + ": no test tells " + left);
+                System.out.println(nameOf(section) + ": no test tells " + left);
             }
         }
         System.out.println("EdgesTest: " + tests + " sentences, " + asked + " asked, " + broken + " broken");

@@ -8,6 +8,7 @@ public final class EdgesTest {
 
     public static void main(String[] args) throws IOException {
         Edges e = new Edges(Path.of("../shared/DOC.md"));
+        AboutEdges.tell(e);
         TermEdges.tell(e);
         TextEdges.tell(e);
         ActEdges.tell(e);

@@ -3,6 +3,9 @@ import java.util.Random;
 
 /** Runs drawn by fixed seeds, on MountPeers and on the Oracle: every answer and all that can be asked must agree. */
 public final class RandomRunsTest {
+    private static final int[] FAR = {Integer.MIN_VALUE, Integer.MIN_VALUE + 1, -65536, -33, -32, -24, 31, 32, 33, 56, 64, 255,
+        256, 65536, 1 << 24, 1 << 30, Integer.MAX_VALUE - 1, Integer.MAX_VALUE};
+
     private static int wrong = 0;
 
     private final Random random;
@@ -45,10 +48,15 @@ public final class RandomRunsTest {
         return random.nextInt(n);
     }
 
+    /** A number from low to high, now and then one that no call can take. */
+    private int wild(int low, int high) {
+        return any(4) == 0 ? FAR[any(FAR.length)] : low + any(high - low + 1);
+    }
+
     /** Mostly a mount that is there, now and then any number. */
     private int mount() {
         if (any(25) == 0) {
-            return any(28) - 2;
+            return wild(-2, 25);
         }
         int n = any(o.world.mounts.size());
         for (int m : o.world.mounts.keySet()) {
@@ -60,7 +68,7 @@ public final class RandomRunsTest {
     }
 
     private int dir() {
-        return any(40) == 0 ? any(8) - 2 : any(4);
+        return any(40) == 0 ? wild(-2, 5) : any(4);
     }
 
     private boolean say(String text) {
@@ -210,7 +218,7 @@ public final class RandomRunsTest {
             case 0: case 1: return same("mounts(" + m + ", " + d + ")", () -> x.mounts(m, d), () -> o.mounts(m, d));
             case 2: case 3: return same("binds(" + f + ", " + m + ", " + d + ")", () -> x.binds(f, m, d), () -> o.binds(f, m, d));
             case 4: case 5: {
-                int v = mood == 2 ? 1 : any(30) == 0 ? any(8) - 2 : any(4);
+                int v = mood == 2 ? 1 : any(30) == 0 ? wild(-2, 5) : any(4);
                 return same("makes(" + m + ", " + v + ")", () -> x.makes(m, v), () -> o.makes(m, v));
             }
             case 6: return same("trees(" + f + ", " + m + ", " + d + ")", () -> x.trees(f, m, d), () -> o.trees(f, m, d));
@@ -242,8 +250,8 @@ public final class RandomRunsTest {
                 if (any(10) != 0 && o.world.mounts.containsKey(m) && o.world.spread(m).size() > 9) {
                     return true;
                 }
-                int k = any(20) == 0 ? any(20) - 1 : any(5);
-                int p = any(20) == 0 ? any(14) - 1 : any(11);
+                int k = any(20) == 0 ? wild(-1, 18) : any(5);
+                int p = any(20) == 0 ? wild(-1, 12) : any(11);
                 return same("odds(" + m + ", " + k + ", " + p + ")", () -> x.odds(m, k, p), () -> o.odds(m, k, p));
             }
             case 15: {
@@ -253,46 +261,46 @@ public final class RandomRunsTest {
                 return same("hacks(" + m + ")", () -> x.hacks(m), () -> o.hacks(m));
             }
             default: {
-                int what = any(8) - 1;
+                int what = any(10) == 0 ? wild(-1, 6) : any(8) - 1;
                 return same("mount(" + m + ", " + what + ")", () -> x.mount(m, what), () -> o.mount(m, what));
             }
         }
     }
 
     private boolean other() {
-        int i = any(20) == 0 ? any(5) - 1 : any(2);
+        int i = any(20) == 0 ? wild(-1, 3) : any(2);
         switch (any(12)) {
             case 0: return same("keep(" + i + ")", () -> x.keep(i) ? 1 : 0, () -> o.keep(i) ? 1 : 0);
             case 1: return any(4) != 0 || same("again(" + i + ")", () -> x.again(i) ? 1 : 0, () -> o.again(i) ? 1 : 0);
             case 2: {
-                int what = any(20) == 0 ? any(8) - 1 : any(5);
-                int v = any(20) == 0 ? any(14) - 2 : any(5);
+                int what = any(20) == 0 ? wild(-1, 6) : any(5);
+                int v = any(20) == 0 ? wild(-2, 11) : any(5);
                 return same("heard(" + what + ", " + v + ")", () -> x.heard(what, v), () -> o.heard(what, v));
             }
             case 3: return any(4) != 0 || same("forget()", x::forget, o::forget);
             case 4: case 5: {
-                int n = any(20) == 0 ? any(14) - 2 : any(8);
-                int k = any(20) == 0 ? any(8) - 1 : any(5);
-                int is = any(20) == 0 ? any(5) - 1 : n + 2 < k + 4 ? 1 : 0;
+                int n = any(20) == 0 ? wild(-2, 11) : any(8);
+                int k = any(20) == 0 ? wild(-1, 6) : any(5);
+                int is = any(20) == 0 ? wild(-1, 3) : n + 2 < k + 4 ? 1 : 0;
                 return same("saw(" + n + ", " + k + ", " + is + ")", () -> x.saw(n, k, is), () -> o.saw(n, k, is));
             }
             case 6: return any(4) != 0 || same("denies()", x::denies, o::denies);
             case 7: return same("laws()", x::laws, o::laws);
             case 8: return same("looks()", x::looks, o::looks);
             case 9: {
-                int v = any(24) - 1;
+                int v = any(10) == 0 ? wild(-1, 22) : any(24) - 1;
                 return same("rests(" + v + ")", () -> x.rests(v), () -> o.rests(v));
             }
             case 10: {
-                int kind = any(20) == 0 ? any(8) - 2 : any(4);
-                int n = any(20) == 0 ? any(40) - 8 : any(25);
+                int kind = any(20) == 0 ? wild(-2, 5) : any(4);
+                int n = any(20) == 0 ? wild(-8, 31) : any(25);
                 int f = any(3) == 0 ? random.nextInt() : any(5) - 2;
                 int step = any(3) == 0 ? random.nextInt() : any(5) - 2;
                 return any(3) != 0 || same("sheet(" + kind + ", " + n + ", " + f + ", " + step + ")",
                     () -> x.sheet(kind, n, f, step), () -> o.sheet(kind, n, f, step));
             }
             default: {
-                int n = any(10) == 0 ? any(50) - 4 : 1 + any(6);
+                int n = any(10) == 0 ? wild(-4, 45) : 1 + any(6);
                 int seed = random.nextInt();
                 return any(2) != 0 || same("years(" + seed + ", " + n + ")", () -> x.years(seed, n), () -> o.years(seed, n));
             }
@@ -309,7 +317,7 @@ public final class RandomRunsTest {
             case 3: return say(ruleText()) && same("law(" + m + ", " + d + ")", () -> x.law(m, d), () -> o.law(m, d));
             default: {
                 int v = random.nextInt();
-                int n = any(90) - 4;
+                int n = any(8) == 0 ? wild(-4, 85) : any(90) - 4;
                 return any(2) == 0 ? same("sign(" + v + ")", () -> x.sign(v), () -> o.sign(v))
                     : same("end(" + n + ")", () -> x.end(n) ? 1 : 0, () -> o.end(n) ? 1 : 0);
             }

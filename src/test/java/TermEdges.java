@@ -6,7 +6,6 @@ final class TermEdges {
     }
 
     static void tell(Edges e) {
-        about(e);
         mounts(e);
         kinds(e);
         groups(e);
@@ -23,33 +22,6 @@ final class TermEdges {
         c.due("group of " + m, x.mount(m, 2), group);
         c.due("master of " + m, x.mount(m, 3), master);
         c.due("kind of " + m, x.mount(m, 4), kind);
-    }
-
-    private static void about(Edges e) {
-        e.edge(Edges.ABOUT, "An object is used for at most 512 calls after it has been made", c -> {
-            MountPeers x = new MountPeers();
-            for (int i = 0; i < 256; i++) {
-                c.due("mounts() " + i, x.mounts(0, 0), 1);
-                c.due("unmounts() " + i, x.unmounts(0, 0), 1);
-            }
-            MountPeers y = new MountPeers();
-            for (int i = 1; i <= 511; i++) {
-                c.due("makes() " + i, y.makes(0, i % 2), i == 1 ? 1 : i % 2 == 1 ? 1 : 10);
-            }
-            c.due("the 512th call: the next group behind 256 new ones", y.count(5), 257);
-            MountPeers z = new MountPeers();
-            for (int i = 1; i <= 511; i++) {
-                z.years(i, 40);
-            }
-            c.due("the 512th call: ROOT is there", z.count(0) & 1, 1);
-        });
-        e.edge(Edges.ABOUT, "what is mounted in one that is shared is mounted in all its peers, and in all that are slaves of"
-            + " these, and never back", c -> {
-                MountPeers x = Worlds.longChain();
-                c.due("in 2: 2, 1, 3, 4", x.would(2, 0), 4);
-                c.due("in 3: 3, 4", x.would(3, 0), 2);
-                c.due("in 4: 4 alone", x.would(4, 0), 1);
-            });
     }
 
     private static void mounts(Edges e) {
