@@ -167,6 +167,17 @@ final class DayEdges {
                 dueDay(c, "k0" + sign, -3);
                 dueDay(c, "ba:" + sign, -4);
             }
+            for (char sign = 0; sign < 256; sign++) {
+                boolean letter = sign >= 'a' && sign <= 'd';
+                dueDay(c, "" + sign, "mubrvk".indexOf(sign) >= 0 ? -2 : -1);
+                dueDay(c, "k" + sign, sign >= '0' && sign <= '3' ? -3 : -2);
+                dueDay(c, "m" + sign, letter ? -3 : -2);
+                dueDay(c, "ba" + sign, letter || sign == ':' ? -4 : -3);
+                if (sign != '.') {
+                    dueDay(c, "ma" + sign, letter ? -4 : -3);
+                    dueDay(c, "va:b" + sign, letter ? -6 : -5);
+                }
+            }
             dueDay(c, "ma:", -3);
             dueDay(c, "mae", -3);
             dueDay(c, "ba.", -3);

@@ -132,6 +132,10 @@ final class GuessEdges {
             c.dueRow("none now", x, 0);
             x.undo();
             c.due("3 again", x.fits(), 8);
+            x.forget();
+            x.heard(0, 4);
+            x.heard(1, 1);
+            c.due("the first counts, too", x.fits(), 8);
             MountPeers y = new MountPeers();
             for (int i = 0; i < 11; i++) {
                 y.heard(1, 0);

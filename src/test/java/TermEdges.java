@@ -181,6 +181,10 @@ final class TermEdges {
             lets(c, "6=2+3", false);
             c.due("1<2<3", Check.say(new MountPeers(), "1<2<3").rule(), -4);
             c.due("1=2>3", Check.say(new MountPeers(), "1=2>3").rule(), -4);
+            c.due("1<(2)<3", Check.say(new MountPeers(), "1<(2)<3").rule(), -6);
+            c.due("(1<(2<3)=4)", Check.say(new MountPeers(), "(1<(2<3)=4)").rule(), -9);
+            c.due("(1<2)<3+4>5", Check.say(new MountPeers(), "(1<2)<3+4>5").rule(), -10);
+            c.due("1<2+3*-4=5", Check.say(new MountPeers(), "1<2+3*-4=5").rule(), -9);
             lets(c, "1<(2<3)+1", true);
         });
         e.edge(Edges.TERMS, "then + - (from the left),", c -> {
@@ -206,6 +210,10 @@ final class TermEdges {
             lets(c, "2-----3=-1", true);
             lets(c, "-2+3=1", true);
             lets(c, "-(2+3)=-5", true);
+            // the least int is its own opposite: so it shows that - works ahead of /
+            lets(c, "-(512*512*512*16)/2<0", true);
+            lets(c, "-512*512*512*16/2<0", true);
+            lets(c, "-(512*512*512*16/2)<0", false);
         });
         e.edge(Edges.TERMS, "things: a NUMBER of 1 to 3 digits,", c -> {
             lets(c, "9=9", true);
@@ -301,6 +309,9 @@ final class TermEdges {
             lets(c, "512*512*512*16=-(512*512*512*16)", true);
             lets(c, "512*512*512*16/-1<0", true);
             lets(c, "-(512*512*512*16)<0", true);
+            lets(c, "512*512*512*16/1=512*512*512*16", true);
+            lets(c, "0-512*512*512*8-512*512*512*8-1", true);
+            lets(c, "512*512*512*8+512*512*512*8", false);
         });
         e.edge(Edges.TERMS, "The MOUNT LETS a copy come there, if that is above 0.", c -> {
             lets(c, "1", true);
@@ -598,6 +609,21 @@ final class TermEdges {
         x.rests(7);
     }
 
+    /** Calls that do not read the text leave it, be they done or refused. */
+    private static void dueText(Check c, MountPeers x) {
+        Check.say(x, "b");
+        for (int m : new int[] {3, 9}) {
+            int[] answers = {x.mounts(m, 0), x.binds(m, 0, 0), x.makes(m, 3), x.moves(m, 4, 0), x.trees(m, 4, 0), x.unmounts(m, 0),
+                x.sheet(m, 1, 0, 1), x.undo(), x.spread(m), x.peers(m), x.masters(m), x.groups(), x.keepers(1, m), x.inside(m),
+                x.path(m), x.alike(1, m), x.largest(), x.would(m, 0), x.lost(m, 0), x.widest(), x.heard(m, 0), x.fits(), x.asks(),
+                x.forget(), x.saw(0, m, 0), x.laws(), x.looks(), x.denies(), x.odds(m, 0, 0), x.hacks(m), x.rests(m),
+                x.years(7, m), x.count(m), x.keep(m - 3) ? 1 : 0, x.again(m - 3) ? 1 : 0, x.mount(1, 0), x.at(1, 0)};
+            c.due("signs behind " + answers.length + " calls", x.count(10), 1);
+        }
+        c.due("end() of too many", x.end(2), false);
+        c.due("place() of it", x.place(), 1);
+    }
+
     private static void refusals(Edges e) {
         e.edge(Edges.TERMS, "Refused calls answer NONE, or false, and change nothing but THE TEXT, which a call that reads it empties.",
             c -> {
@@ -628,6 +654,7 @@ final class TermEdges {
                 c.dueState("refused texts", x, state);
                 c.dueRow("refused texts", x, 4);
                 c.due("the rule stays", x.would(1, 0), 1);
+                dueText(c, x);
             });
         e.edge(Edges.TERMS, "NONE comes ahead of other answers below 0, if not said otherwise;", c -> {
             MountPeers x = Worlds.after("ma.mb.mba.k1a.");

@@ -125,6 +125,13 @@ final class TextEdges {
                 dueRule(c, "n" + behind, -2);
                 dueRule(c, "(1)" + behind, -4);
             }
+            for (char sign = 0; sign < 256; sign++) {
+                boolean thing = "0123456789nkgidwq".indexOf(sign) >= 0;
+                dueRule(c, "" + sign, thing ? 0 : "(-".indexOf(sign) >= 0 ? -2 : -1);
+                dueRule(c, "n" + sign, "<>=+-*/".indexOf(sign) >= 0 ? -3 : -2);
+                dueRule(c, "1" + sign, "<>=+-*/".indexOf(sign) >= 0 ? -3 : sign >= '0' && sign <= '9' ? 0 : -2);
+                dueRule(c, "(k" + sign, ")".indexOf(sign) >= 0 ? 0 : "<>=+-*/".indexOf(sign) >= 0 ? -4 : -3);
+            }
             dueRule(c, "n1", -2);
             dueRule(c, "(1)1", -4);
             dueRule(c, "1)", -2);
@@ -175,6 +182,11 @@ final class TextEdges {
             c.due("A", Check.say(x, "A").place(), -1);
             c.due("a sign 0", Check.say(x, "a" + (char) 0).place(), -2);
             c.due("a full stop", Check.say(x, "a.").place(), -2);
+            for (char sign = 0; sign < 256; sign++) {
+                boolean letter = sign >= 'a' && sign <= 'd';
+                c.due("the sign " + (int) sign, Check.say(x, "" + sign).place(), letter ? sign - 'a' : -1);
+                c.due("behind a the sign " + (int) sign, Check.say(x, "a" + sign).place(), letter ? 100 + sign - 'a' : -2);
+            }
         });
         e.edge(5, "each is a DIR of the MOUNT where one is (at first ROOT);", c -> {
             MountPeers x = Worlds.after("mb.mbd.mbdc.");
@@ -294,6 +306,10 @@ final class TextEdges {
             c.due("the third entry is that of 2, the fourth that of 4", x.count(3), 4 | 16);
             c.due("kind of 4", x.mount(4, 4), 3);
             c.due("kind of ROOT", x.mount(0, 4), 0);
+            MountPeers y = some();
+            c.due("-3, -2, -1, 0: no entry is used up by 3, that is not there", y.sheet(2, 4, -3, 1), 0);
+            c.due("4, 3, 2, 1", y.sheet(2, 4, 4, -1), 3);
+            c.due("4 by the last entry", y.count(3), 1 | 4 | 16);
             c.due("binds() of 4", x.binds(4, 2, 0), -3);
         });
         e.edge(8, "(others are passed by, with their entry);", c -> {
